@@ -102,10 +102,10 @@ public final class PromisesTest {
         fresh();
         due("empty", told(""), 0);
         due("blanks", told("   "), 0);
-        x.seed(77);
         x.years(4);
         x.thing(SAND, 1, 1, 1);
         x.prove(0, 3);
+        x.seed(77);
         x.sheet(1, 2, 3);
         x.shelf(2, 0, 0);
         x.keep();
@@ -194,6 +194,9 @@ public final class PromisesTest {
         due("byte 0", told("dig 3\u0000;"), fault(5));
         due("a tab is no blank", told("dig\t3;"), fault(3));
         due("names grown together", told("thingin 1;"), fault(0));
+        due("z is a letter", told("digz 3;"), fault(0));
+        due("a is a letter", told("diga 3;"), fault(0));
+        due("9 and 0 are digits", told("slip 90;slip 09;"), 0);
         due("the first of two", told("dig 99; foo"), fault(4));
         due("sign behind blanks", told("dig 3 4;"), fault(6));
     }
@@ -459,6 +462,17 @@ public final class PromisesTest {
         x.seed(11);
         due("as counted", x.luck(30), slipsIntoPit0(30, 11));
         due("z stays", x.seed(11), 11);
+        int z = 1;
+        while (slipsIntoPit0(1, z) == 0) {
+            z++;
+        }
+        x.seed(z);
+        due("one of one", x.luck(1), 1);
+        x.lay(0, 1);
+        due("more than behind one year, not two", x.luck(1), 1);
+        x.lay(0, 4);
+        x.seed(11);
+        due("z stays", x.seed(11), 11);
         due("it stays", x.of(0, 3), 4);
         due("no year", x.state(0), 0);
     }
@@ -514,6 +528,14 @@ public final class PromisesTest {
         x.thing(SAND, 7, 0, 5);
         x.thing(VESSEL, 7, 0, 5);
         due("cover by the fewest", x.state(5), 33);
+        for (int i = 0; i < 6; i++) {
+            x.thing(i, 7, 0, i);
+            x.mind(i, i, 0);
+            x.lay(i, i);
+        }
+        x.take(6);
+        x.take(7);
+        due("all six pits", x.state(5), 63);
         due("what 6", x.state(6), BAD);
         due("what -1", x.state(-1), BAD);
 
@@ -666,11 +688,25 @@ public final class PromisesTest {
         x.thing(MOSAIC, 0, 9, 0);
         due("the least of several", x.awayFor(2, 59), 4);
         due("both", x.awayFor(2, 60), 12);
+        fresh();
+        for (int i = 0; i < 8; i++) {
+            x.thing(RUBBISH, 0, 0, 0);
+        }
+        due("all eight", x.awayFor(1, 50), 255);
+        due("seven", x.awayFor(1, 48), 127);
+        due("one", x.awayFor(1, 36), 1);
+        fresh();
+        x.thing(MOSAIC, 0, 9, 0);
+        x.thing(VESSEL, 0, 0, 1);
+        x.thing(MOSAIC, 0, 9, 1);
+        due("a higher one alone", x.awayFor(2, 52), 4);
+        x.lay(0, 1);
 
         promise = 30;
-        due("above", x.above(1), 4);
-        due("none", x.above(2), 0);
-        due("thing 4", x.above(4), BAD);
+        due("above", x.above(1), 5);
+        due("one", x.above(2), 1);
+        due("none", x.above(0), 0);
+        due("thing 3", x.above(3), BAD);
         due("thing -1", x.above(-1), BAD);
         x.take(1);
         due("found", x.above(1), 0);
@@ -712,6 +748,8 @@ public final class PromisesTest {
         x.sheet(0, 2, 1);
         x.put(0, 0, 50);
         due("a found one fits with all", x.fits(0, 0, 0), 100);
+        x.sheet(3, 2, 0);
+        due("the last sheet", x.fits(3, 0, 1), 0);
     }
 
     private static void fractions() {
@@ -884,6 +922,11 @@ public final class PromisesTest {
         due("shorts, before -12", x.minds(1, 9, 0, 1), -13);
         due("BAD before -11", x.minds(2, 0, 3, 0), BAD);
         due("refusals change nothing", x.of(0, 1), 0);
+        due("those behind stay", x.of(2, 1), 99);
+        x.sheet(3, 0, 1);
+        due("the last sheet", x.minds(3, 0, 1, 1), 1);
+        due("its 0", x.of(1, 1), 0);
+        due("those behind stay", x.of(2, 1), 99);
     }
 
     private static void shelvesAndActs() {
@@ -980,6 +1023,10 @@ public final class PromisesTest {
         actDue(0, 5, 10, 51, 10);
         actDue(1, 5, 35, 20, 11, 51, 10);
         actDue(2, 5, 14, 50, 12);
+        actDue(2, 6, 14, 50, 12);
+        actDue(3, 5, 101, 13, 20, 11, 51, 10);
+        x.mind(1, RUBBISH, 2);
+        actDue(3, 5, (-35 ^ 70) - 1, 31, 13, 11, 30, 10, 12);
         x.mind(1, SAND, 3);
         actDue(2, 5, 2 ^ 3, 61, 12, 10);
         actDue(3, 5, 91, 60, 13, 11, 10);
@@ -1011,6 +1058,8 @@ public final class PromisesTest {
         due("no trace then", x.many(6), 0);
         x.take(1);
         due("a found one acts", x.act(0, 0, 1), 3);
+        x.shelf(3, 0, 0);
+        due("the last shelf", x.act(3, 0, 1), 2);
     }
 
     private static void manyKeepAgain() {
