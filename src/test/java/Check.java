@@ -18,6 +18,10 @@ final class Check {
         due(what, isSo ? 1 : 0, 1);
     }
 
+    int answers() {
+        return asDue + wrong;
+    }
+
     void end() {
         System.out.println(asDue + " answers as due, " + wrong + " not");
         if (wrong != 0 || asDue == 0) {

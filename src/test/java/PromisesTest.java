@@ -37,20 +37,8 @@ public final class PromisesTest {
         CHECK.due("promise " + promise + ": " + call, got, want);
     }
 
-    private static void feedAll(String text) {
-        for (int at = 0; at < text.length(); at += 8) {
-            long eight = 0;
-            int n = Math.min(8, text.length() - at);
-            for (int i = n - 1; i >= 0; i--) {
-                eight = eight << 8 | text.charAt(at + i);
-            }
-            x.feed(eight, n);
-        }
-    }
-
     private static int told(String text) {
-        feedAll(text);
-        return x.street();
+        return Tapes.tell(x, text);
     }
 
     /** The answer to a text with a fault at a place. */
@@ -92,7 +80,7 @@ public final class PromisesTest {
         due("all blanks", x.street(), 0);
         due("used up", x.many(5), 0);
         fresh();
-        feedAll(" ".repeat(193));
+        Tapes.feed(x, " ".repeat(193));
         due("only some would fit", x.feed(0x2020202020202020L, 8), FULL);
         due("none came", x.feed(0x20202020202020L, 7), 200);
     }
