@@ -3,8 +3,8 @@ import java.util.function.Consumer;
 import java.util.function.ToLongFunction;
 
 /**
- * Tests of the document's sentences, each quoted under the promise that it belongs to and given a
- * new object x of its own.
+ * Tests of the document's sentences, each quoted under the promise (or other part) that it belongs to
+ * and given a new object x of its own.
  */
 abstract class Sentences {
     static final int BAD = SampleLayers.BAD, FULL = SampleLayers.FULL, NONE = SampleLayers.NONE;
@@ -20,7 +20,8 @@ abstract class Sentences {
 
     private final Document document;
     private final Check check;
-    private int promise;
+    /** A promise's number, or another part of the document. */
+    private int part;
     private String words;
     SampleLayers x;
 
@@ -32,18 +33,18 @@ abstract class Sentences {
     abstract void all();
 
     /** One sentence: it stands in the document, and its test asks for something. */
-    final void says(int ofPromise, String itsWords, Runnable test) {
-        promise = ofPromise;
+    final void says(int ofPart, String itsWords, Runnable test) {
+        part = ofPart;
         words = itsWords;
         x = new SampleLayers();
-        holds("the document says so", document.quote(promise, words));
+        holds("the document says so", document.quote(part, words));
         int before = check.answers();
         test.run();
         holds("it is tested", check.answers() > before);
     }
 
     final void due(String call, long got, long want) {
-        check.due("promise " + promise + " \"" + words + "\": " + call, got, want);
+        check.due(Document.nameOf(part) + " \"" + words + "\": " + call, got, want);
     }
 
     final void holds(String what, boolean isSo) {
@@ -85,7 +86,7 @@ abstract class Sentences {
 
     final void refused(String call, long want, Consumer<SampleLayers> made,
             ToLongFunction<SampleLayers> asked) {
-        holds("the document says that it changes nothing", document.quote(promise, CHANGES_NOTHING));
+        holds("the document says that it changes nothing", document.quote(part, CHANGES_NOTHING));
         unchanged(call, want, made, asked);
     }
 
